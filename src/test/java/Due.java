@@ -1,0 +1,111 @@
+/** What every test needs: answers compared with what is due, texts put onto the TAPE, characters gathered. */
+final class Due {
+    private static int wrong = 0;
+
+    private Due() {
+    }
+
+    static void due(String call, long got, long want) {
+        if (got != want) {
+            wrong++;
+            System.out.println(call + " answered " + got + ", due is " + want);
+        }
+    }
+
+    static void due(String call, boolean got, boolean want) {
+        due(call, got ? 1 : 0, want ? 1 : 0);
+    }
+
+    static void due(String call, String got, String want) {
+        if (!got.equals(want)) {
+            wrong++;
+            System.out.println(call + " answered '" + got + "', due is '" + want + "'");
+        }
+    }
+
+    static void end() {
+        System.out.println(wrong == 0 ? "all answers are as due" : wrong + " answers are not as due");
+        if (wrong != 0) {
+            System.exit(1);
+        }
+    }
+
+    /** Up to eight characters as a number, the first highest. */
+    static long packed(String characters) {
+        long w = 0;
+        for (int k = 0; k < characters.length(); k++) {
+            w = w << 8 | characters.charAt(k);
+        }
+        return w;
+    }
+
+    static void put(PipelineText x, String text) {
+        for (int at = 0; at < text.length(); at += 8) {
+            String some = text.substring(at, Math.min(text.length(), at + 8));
+            due("text of '" + some + "'", x.text(packed(some)), true);
+        }
+    }
+
+    static int read(PipelineText x, String text) {
+        put(x, text);
+        return x.read();
+    }
+
+    /** A new object that has read the text. */
+    static PipelineText reading(String text) {
+        PipelineText x = new PipelineText();
+        read(x, text);
+        return x;
+    }
+
+    /** A new object that has read the text, and what it is due to answer. */
+    static void dueRead(String text, int want) {
+        due("read of '" + text.replace("\n", "|") + "'", read(new PipelineText(), text), want);
+    }
+
+    static void dueFault(String text, int fault, int culprit) {
+        PipelineText x = reading(text);
+        String shown = text.replace("\n", "|");
+        due("check of '" + shown + "'", x.check(), fault);
+        due("culprit of '" + shown + "'", x.culprit(), culprit);
+        due("check again of '" + shown + "'", x.check(), fault);
+    }
+
+    static String pair(PipelineText x, int i, int pair) {
+        StringBuilder told = new StringBuilder();
+        for (int k = 0; k < 20 && x.pair(i, pair, k) != PipelineText.NONE; k++) {
+            told.append((char) x.pair(i, pair, k));
+        }
+        return told.toString();
+    }
+
+    static String pairs(PipelineText x, int i) {
+        StringBuilder told = new StringBuilder();
+        for (int p = 0; p < x.expanded(i, 1); p++) {
+            told.append(p == 0 ? "" : " ").append(pair(x, i, p));
+        }
+        return told.toString();
+    }
+
+    /** The COMBINATIONS of all EXPANDED ones, each behind the number of its JOB. */
+    static String combinations(PipelineText x, int bound) {
+        StringBuilder told = new StringBuilder();
+        int count = x.expand(bound);
+        for (int i = 0; i < count; i++) {
+            told.append(i == 0 ? "" : ", ").append(x.expanded(i, 0)).append(':').append(pairs(x, i));
+        }
+        return told.toString();
+    }
+
+    static String step(PipelineText x, int i, int step) {
+        StringBuilder told = new StringBuilder();
+        for (int k = 0; k < 800 && x.step(i, step, k) != PipelineText.NONE; k++) {
+            told.append((char) x.step(i, step, k));
+        }
+        return told.toString();
+    }
+
+    static String times(String text, int count) {
+        return text.repeat(count);
+    }
+}
