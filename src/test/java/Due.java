@@ -1,6 +1,8 @@
 /** What every test needs: answers compared with what is due, texts put onto the TAPE, characters gathered. */
 final class Due {
     private static int wrong = 0;
+    // Reads one text after another, so that what an earlier one left behind would show.
+    private static final PipelineText USED = new PipelineText();
 
     private Due() {
     }
@@ -58,17 +60,37 @@ final class Due {
         return x;
     }
 
-    /** A new object that has read the text, and what it is due to answer. */
+    /** A new object that has read the text and expanded it to as many as are due. */
+    static PipelineText expanding(String text, int want) {
+        PipelineText x = reading(text);
+        due("expand of '" + text.replace("\n", "|") + "'", x.expand(2000), want);
+        return x;
+    }
+
+    /** What a new object and a used one are due to answer to the text. */
     static void dueRead(String text, int want) {
-        due("read of '" + text.replace("\n", "|") + "'", read(new PipelineText(), text), want);
+        String shown = text.replace("\n", "|");
+        due("read of '" + shown + "'", read(new PipelineText(), text), want);
+        due("read by a used one of '" + shown + "'", read(USED, text), want);
     }
 
     static void dueFault(String text, int fault, int culprit) {
         PipelineText x = reading(text);
+        read(USED, text);
         String shown = text.replace("\n", "|");
         due("check of '" + shown + "'", x.check(), fault);
         due("culprit of '" + shown + "'", x.culprit(), culprit);
         due("check again of '" + shown + "'", x.check(), fault);
+        due("culprit by a used one of '" + shown + "'", USED.culprit(), culprit);
+        due("check by a used one of '" + shown + "'", USED.check(), fault);
+    }
+
+    static void dueCombinations(String text, String want) {
+        String shown = text.replace("\n", "|");
+        due("expand of '" + shown + "'", combinations(reading(text), 2000), want);
+        read(USED, text);
+        due("expand by a used one of '" + shown + "'", combinations(USED, 2000), want);
+        due("expand again of '" + shown + "'", combinations(USED, 2000), want);
     }
 
     static String pair(PipelineText x, int i, int pair) {

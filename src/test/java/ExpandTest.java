@@ -15,50 +15,46 @@ public final class ExpandTest {
         Due.end();
     }
 
-    private static void dueCombinations(String text, String want) {
-        Due.due("expand of '" + text.replace("\n", "|") + "'", Due.combinations(Due.reading(text), 2000), want);
-    }
-
     private static void combinations() {
-        dueCombinations("", "");
-        dueCombinations("part p\nstep a", "");
-        dueCombinations("job a", "0:");
-        dueCombinations("job a\nexclude x=1", "0:");
-        dueCombinations("job a\njob b\naxis x 2 1\njob c", "0:, 1:x=2, 1:x=1, 2:");
-        dueCombinations("job a\naxis y 3 1 2\naxis x b a", "0:y=3 x=b, 0:y=3 x=a, 0:y=1 x=b, 0:y=1 x=a, "
+        Due.dueCombinations("", "");
+        Due.dueCombinations("part p\nstep a", "");
+        Due.dueCombinations("job a", "0:");
+        Due.dueCombinations("job a\nexclude x=1", "0:");
+        Due.dueCombinations("job a\njob b\naxis x 2 1\njob c", "0:, 1:x=2, 1:x=1, 2:");
+        Due.dueCombinations("job a\naxis y 3 1 2\naxis x b a", "0:y=3 x=b, 0:y=3 x=a, 0:y=1 x=b, 0:y=1 x=a, "
                 + "0:y=2 x=b, 0:y=2 x=a");
-        dueCombinations("job a\naxis z 1 2\naxis y 1\naxis x 1 2", "0:z=1 y=1 x=1, 0:z=1 y=1 x=2, 0:z=2 y=1 x=1, "
+        Due.dueCombinations("job a\naxis z 1 2\naxis y 1\naxis x 1 2", "0:z=1 y=1 x=1, 0:z=1 y=1 x=2, 0:z=2 y=1 x=1, "
                 + "0:z=2 y=1 x=2");
-        dueCombinations("job a\naxis long5678 val45678\naxis l v", "0:long5678=val45678 l=v");
+        Due.dueCombinations("job a\naxis long5678 val45678\naxis l v", "0:long5678=val45678 l=v");
     }
 
     private static void excludes() {
         String axes = "job a\naxis x 1 2\naxis y 1 2\n";
-        dueCombinations(axes + "exclude x=1", "0:x=2 y=1, 0:x=2 y=2");
-        dueCombinations(axes + "exclude y=2 x=1", "0:x=1 y=1, 0:x=2 y=1, 0:x=2 y=2");
-        dueCombinations(axes + "exclude y=2 x=1\nexclude x=2 y=1", "0:x=1 y=1, 0:x=2 y=2");
-        dueCombinations(axes + "exclude x=1 z=1\nexclude z=1\nexclude x=3\nexclude branch=b",
+        Due.dueCombinations(axes + "exclude x=1", "0:x=2 y=1, 0:x=2 y=2");
+        Due.dueCombinations(axes + "exclude y=2 x=1", "0:x=1 y=1, 0:x=2 y=1, 0:x=2 y=2");
+        Due.dueCombinations(axes + "exclude y=2 x=1\nexclude x=2 y=1", "0:x=1 y=1, 0:x=2 y=2");
+        Due.dueCombinations(axes + "exclude x=1 z=1\nexclude z=1\nexclude x=3\nexclude branch=b",
                 "0:x=1 y=1, 0:x=1 y=2, 0:x=2 y=1, 0:x=2 y=2");
-        dueCombinations(axes + "exclude x=1\nexclude x=2\njob b", "1:");
-        dueCombinations(axes + "exclude x=1 y=1\nexclude x=1 y=2\nexclude x=2 y=1\nexclude x=2 y=2", "");
+        Due.dueCombinations(axes + "exclude x=1\nexclude x=2\njob b", "1:");
+        Due.dueCombinations(axes + "exclude x=1 y=1\nexclude x=1 y=2\nexclude x=2 y=1\nexclude x=2 y=2", "");
     }
 
     private static void includes() {
         String axes = "job a\naxis x 1 2\naxis y 1 2\n";
         String four = "0:x=1 y=1, 0:x=1 y=2, 0:x=2 y=1, 0:x=2 y=2";
-        dueCombinations("job a\ninclude x=1", "0:x=1");
-        dueCombinations("job a\ninclude x=1 y=2\ninclude y=2 x=1\ninclude x=1", "0:x=1 y=2, 0:x=1");
-        dueCombinations("job a\nexclude x=1\ninclude x=1", "0:x=1");
-        dueCombinations(axes + "include y=2 x=1", four);
-        dueCombinations(axes + "include y=2 x=1 z=1\ninclude x=1\ninclude y=3 x=1\ninclude q=1 r=1",
+        Due.dueCombinations("job a\ninclude x=1", "0:x=1");
+        Due.dueCombinations("job a\ninclude x=1 y=2\ninclude y=2 x=1\ninclude x=1", "0:x=1 y=2, 0:x=1");
+        Due.dueCombinations("job a\nexclude x=1\ninclude x=1", "0:x=1");
+        Due.dueCombinations(axes + "include y=2 x=1", four);
+        Due.dueCombinations(axes + "include y=2 x=1 z=1\ninclude x=1\ninclude y=3 x=1\ninclude q=1 r=1",
                 four + ", 0:y=2 x=1 z=1, 0:x=1, 0:y=3 x=1, 0:q=1 r=1");
-        dueCombinations(axes + "exclude y=2\ninclude y=2 x=1\ninclude x=1 y=2\ninclude x=1 y=1",
+        Due.dueCombinations(axes + "exclude y=2\ninclude y=2 x=1\ninclude x=1 y=2\ninclude x=1 y=1",
                 "0:x=1 y=1, 0:x=2 y=1, 0:y=2 x=1");
-        dueCombinations(axes + "include x=3 y=1\ninclude y=1 x=3\ninclude x=1 z=1\ninclude z=1 x=1",
+        Due.dueCombinations(axes + "include x=3 y=1\ninclude y=1 x=3\ninclude x=1 z=1\ninclude z=1 x=1",
                 four + ", 0:x=3 y=1, 0:x=1 z=1");
-        dueCombinations("job a\ninclude a=1 b=2 c=3 d=4\ninclude d=4 c=3 b=2 a=1\ninclude d=4 c=3 b=2 a=2\njob b\n"
+        Due.dueCombinations("job a\ninclude a=1 b=2 c=3 d=4\ninclude d=4 c=3 b=2 a=1\ninclude d=4 c=3 b=2 a=2\njob b\n"
                 + "include a=1 b=2 c=3 d=4", "0:a=1 b=2 c=3 d=4, 0:d=4 c=3 b=2 a=2, 1:a=1 b=2 c=3 d=4");
-        dueCombinations("job a\naxis x 1\naxis y 1\nexclude x=1\ninclude x=1\ninclude y=1", "0:x=1, 0:y=1");
+        Due.dueCombinations("job a\naxis x 1\naxis y 1\nexclude x=1\ninclude x=1\ninclude y=1", "0:x=1, 0:y=1");
     }
 
     private static void bounds() {

@@ -53,6 +53,8 @@ public final class JobTest {
             Due.due("needs(" + far + ", 0)", x.needs(far, 0), -1);
             Due.due("needs(" + far + ", " + far + ")", x.needs(far, far), -1);
         }
+        Due.due("read of others", Due.read(x, "job a\nneeds b a\njob b"), 2);
+        Due.due("needs(0, 1) of others", x.needs(0, 1), 0);
         Due.due("read of less", Due.read(x, "job a\nneeds a"), 1);
         Due.due("needs(0, 0) anew", x.needs(0, 0), 0);
         Due.due("needs(0, 1) went", x.needs(0, 1), -1);

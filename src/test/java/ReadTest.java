@@ -164,7 +164,8 @@ public final class ReadTest {
                 "ok a b", "a=b c=d", "always or", "always and", "or always", "and always", "always or or always",
                 "always not", "( always", "always )", "( always ) )", "(always)", "not ( always", "ok ( a )", "ok a=b",
                 "ok )", "always ( always )", "always or and always", "( always ) always", "Always", "ok A", "a=B",
-                "always and not", "( ok )", "not and always", "ok abcdefghi", "() always", "( or )"}) {
+                "always and not", "( ok )", "not and always", "ok abcdefghi", "() always", "( or )", "( always always",
+                "( always ok", "not ( a=b b=c )"}) {
             dueCondition(ill, false);
         }
         dueCondition("always" + Due.times(" or always", 9), true);

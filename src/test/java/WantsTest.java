@@ -10,14 +10,8 @@ public final class WantsTest {
         Due.end();
     }
 
-    private static PipelineText expanding(String text, int want) {
-        PipelineText x = Due.reading(text);
-        Due.due("expand of '" + text.replace("\n", "|") + "'", x.expand(2000), want);
-        return x;
-    }
-
     private static void needs() {
-        PipelineText x = expanding("job a\njob b\nneeds a\njob c\nneeds b a\njob d\nneeds c\nif bad a", 4);
+        PipelineText x = Due.expanding("job a\njob b\nneeds a\njob c\nneeds b a\njob d\nneeds c\nif bad a", 4);
         for (int outcomes = 0; outcomes < 256; outcomes++) {
             boolean a = (outcomes & 1) != 0;
             boolean b = (outcomes & 4) != 0;
@@ -35,7 +29,7 @@ public final class WantsTest {
             text.append("job j").append(j).append("\nif ").append(j % 2 == 0 ? "ok j" : "bad j").append(11 - j)
                     .append('\n');
         }
-        PipelineText x = expanding(text.toString(), 12);
+        PipelineText x = Due.expanding(text.toString(), 12);
         for (int j = 0; j < 12; j++) {
             int bit = 2 * (11 - j) + j % 2;
             Due.due("wants with just the bit of " + j, x.wants(j, 1 << bit), true);
@@ -47,7 +41,7 @@ public final class WantsTest {
 
     /** What a CONDITION over the JOBS a, b, c is due to answer for each of the eight ways in which they are ok. */
     private static void dueJoined(String condition, String want) {
-        PipelineText x = expanding("job a\njob b\njob c\njob d\nif " + condition, 4);
+        PipelineText x = Due.expanding("job a\njob b\njob c\njob d\nif " + condition, 4);
         StringBuilder got = new StringBuilder();
         for (int way = 0; way < 8; way++) {
             int outcomes = (way >> 2 & 1) | (way >> 1 & 1) << 2 | (way & 1) << 4;
@@ -82,19 +76,19 @@ public final class WantsTest {
     }
 
     private static void pairs() {
-        PipelineText x = expanding("job a\naxis os lin mac\naxis v 1 2\ninclude v=2 x=y\nif os=lin and v=2 or x=y", 5);
+        PipelineText x = Due.expanding("job a\naxis os lin mac\naxis v 1 2\ninclude v=2 x=y\nif os=lin and v=2 or x=y", 5);
         boolean[] want = {false, true, false, false, true};
         for (int i = 0; i < want.length; i++) {
             Due.due("wants(" + i + ", 0)", x.wants(i, 0), want[i]);
         }
-        PipelineText y = expanding("job a\naxis x 1\nif x=11\njob b\naxis x 1\nif y=1\njob c\nif not z=1", 3);
+        PipelineText y = Due.expanding("job a\naxis x 1\nif x=11\njob b\naxis x 1\nif y=1\njob c\nif not z=1", 3);
         Due.due("another value", y.wants(0, -1), false);
         Due.due("another name", y.wants(1, -1), false);
         Due.due("not a pair", y.wants(2, 0), true);
     }
 
     private static void branches() {
-        PipelineText x = expanding("job a\nif branch=main\njob b\naxis branch main dev\nif branch=main\njob c\n"
+        PipelineText x = Due.expanding("job a\nif branch=main\njob b\naxis branch main dev\nif branch=main\njob c\n"
                 + "if branch1=main\njob d\nif not branch=main\njob e\ninclude branch=q\nif branch=main or branch=q\n"
                 + "job f\ninclude x=main\nif x=main and branch=main\njob g\naxis x 1\nif bran=main or hcnarb=main", 8);
         dueWants(x, "no branch", "01001100");
@@ -120,7 +114,7 @@ public final class WantsTest {
     }
 
     private static void wrongNumbers() {
-        PipelineText x = expanding("job a\nif always\njob b", 2);
+        PipelineText x = Due.expanding("job a\nif always\njob b", 2);
         for (int far : new int[] {Integer.MIN_VALUE, -1, 2, 1548, Integer.MAX_VALUE}) {
             Due.due("wants(" + far + ", -1)", x.wants(far, -1), false);
         }
