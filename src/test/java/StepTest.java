@@ -72,8 +72,8 @@ public final class StepTest {
     private static void exactly(int count) {
         String parts = "part p\n" + Due.times("use q\n", 4) + "part q\n" + Due.times("use r\n", 8) + "part r\n"
                 + Due.times("use s\n", 6) + "step r\n" + "part s\n" + Due.times("step s\n", 5);
-        PipelineText x = Due.expanding("job j\nuse p\nuse s\n" + Due.times("step j\n", count - 998) + "step last\n" + parts,
-                1);
+        String job = "job j\nuse p\nuse s\n" + Due.times("step j\n", count - 998) + "step last\n";
+        PipelineText x = Due.expanding(job + parts, 1);
         Due.due("of " + count + " steps", x.expanded(0, 2), Math.min(count, 1000));
         Due.due("step 0 of " + count, Due.step(x, 0, 0), "s");
         Due.due("step 991 of " + count, Due.step(x, 0, 991), "r");

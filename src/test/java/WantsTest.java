@@ -76,7 +76,8 @@ public final class WantsTest {
     }
 
     private static void pairs() {
-        PipelineText x = Due.expanding("job a\naxis os lin mac\naxis v 1 2\ninclude v=2 x=y\nif os=lin and v=2 or x=y", 5);
+        PipelineText x = Due.expanding("job a\naxis os lin mac\naxis v 1 2\ninclude v=2 x=y\n"
+                + "if os=lin and v=2 or x=y", 5);
         boolean[] want = {false, true, false, false, true};
         for (int i = 0; i < want.length; i++) {
             Due.due("wants(" + i + ", 0)", x.wants(i, 0), want[i]);
