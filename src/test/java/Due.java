@@ -1,16 +1,25 @@
 /** What every test needs: answers compared with what is due, texts put onto the TAPE, characters gathered. */
 final class Due {
     private static int wrong = 0;
+    // The document's sentence that the calls now made are to hold to; told with every wrong answer.
+    private static String sentence = "";
+    private static int sentences = 0;
     // Reads one text after another, so that what an earlier one left behind would show.
     private static final PipelineText USED = new PipelineText();
 
     private Due() {
     }
 
+    /** From here on the answers are due by this sentence of the document. */
+    static void sentence(String place, String words) {
+        sentence = place + ", \"" + words + "\": ";
+        sentences++;
+    }
+
     static void due(String call, long got, long want) {
         if (got != want) {
             wrong++;
-            System.out.println(call + " answered " + got + ", due is " + want);
+            System.out.println(sentence + call + " answered " + got + ", due is " + want);
         }
     }
 
@@ -21,11 +30,12 @@ final class Due {
     static void due(String call, String got, String want) {
         if (!got.equals(want)) {
             wrong++;
-            System.out.println(call + " answered '" + got + "', due is '" + want + "'");
+            System.out.println(sentence + call + " answered '" + got + "', due is '" + want + "'");
         }
     }
 
     static void end() {
+        System.out.print(sentences == 0 ? "" : sentences + " sentences: ");
         System.out.println(wrong == 0 ? "all answers are as due" : wrong + " answers are not as due");
         if (wrong != 0) {
             System.exit(1);
@@ -129,5 +139,32 @@ final class Due {
 
     static String times(String text, int count) {
         return text.repeat(count);
+    }
+
+    /** So many times the text, with the numbers from 0 in the place of #. */
+    static String numbered(String text, int count) {
+        StringBuilder told = new StringBuilder();
+        for (int n = 0; n < count; n++) {
+            told.append(text.replace("#", String.valueOf(n)));
+        }
+        return told.toString();
+    }
+
+    /** All that job tells of a JOB, 0 up to 5. */
+    static String counts(PipelineText x, int job) {
+        StringBuilder told = new StringBuilder();
+        for (int what = 0; what <= 5; what++) {
+            told.append(what == 0 ? "" : " ").append(x.job(job, what));
+        }
+        return told.toString();
+    }
+
+    /** The STEPS of an EXPANDED one, with a bar between. */
+    static String steps(PipelineText x, int i) {
+        StringBuilder told = new StringBuilder();
+        for (int s = 0; s < x.expanded(i, 2); s++) {
+            told.append(s == 0 ? "" : "|").append(step(x, i, s));
+        }
+        return told.toString();
     }
 }
