@@ -5,14 +5,8 @@ import java.util.Random;
 public final class ModelTest {
     private static final int TEXTS = 30000;
     private static final int[] FAR = {Integer.MIN_VALUE, -100, -1, 0, 3, 12, 1000, 1548, Integer.MAX_VALUE};
-    private static final String[] NAMES = {"a", "b", "c", "d", "e", "f", "g", "branch", "ok", "and", "not", "x1234567"};
-    private static final String[] VALUES = {"1", "2", "3", "main", "v2345678", "a"};
-    private static final String[] WRONG = {"A", "a=", "=", "(", ")", "abcdefghi", "$a", "job", "or", "~", "a=b=c"};
-
     private static final Random SOURCE = new Random(20261115);
-    private static boolean careless = false;
-    private static int jobsBegun = 0;
-    private static int partsBegun = 0;
+    private static final MadeTexts MADE = new MadeTexts(SOURCE);
     private static int wellRead = 0;
     private static int withoutFault = 0;
     private static int manyExpanded = 0;
@@ -39,12 +33,8 @@ public final class ModelTest {
         return SOURCE.nextInt(bound);
     }
 
-    private static String one(String[] of) {
-        return of[below(of.length)];
-    }
-
     private static void oneText(PipelineText x, Model model) {
-        String text = text();
+        String text = MADE.text();
         String told = " of '" + text.replace("\n", "|") + "'";
         int read = model.read(text);
         Due.due("read" + told, Due.read(x, text), read);
@@ -91,7 +81,7 @@ public final class ModelTest {
     }
 
     private static void branch(PipelineText x, Model model) {
-        String tape = below(3) == 0 ? one(WRONG) : one(VALUES);
+        String tape = MADE.branch();
         model.branch = Model.isName(tape) ? tape : "";
         Due.put(x, tape);
         Due.due("branch of '" + tape + "'", x.branch(), Model.isName(tape));
@@ -133,115 +123,6 @@ public final class ModelTest {
         for (int tries = 0; tries < 4; tries++) {
             int outcomes = SOURCE.nextInt() | (tries == 0 ? 0x555555 : 0);
             Due.due("wants(" + i + ", " + outcomes + ")" + told, x.wants(i, outcomes), model.wants(i, outcomes));
-        }
-    }
-
-    private static String text() {
-        StringBuilder text = new StringBuilder();
-        careless = below(3) == 0;
-        jobsBegun = 0;
-        partsBegun = 0;
-        for (int begun = below(careless ? 5 : 9); begun >= 0; begun--) {
-            boolean job = below(3) != 0;
-            add(text, (job ? "job " : "part ") + (careless ? name() : NAMES[job ? jobsBegun : partsBegun]));
-            for (int lines = below(job ? 7 : 4); lines > 0; lines--) {
-                add(text, job ? jobLine() : partLine());
-            }
-            jobsBegun += job ? 1 : 0;
-            partsBegun += job ? 0 : 1;
-        }
-        int length = Math.min(700, text.length());
-        return text.substring(0, below(4) == 0 ? length : Math.max(0, text.lastIndexOf("\n", length - 1)));
-    }
-
-    private static void add(StringBuilder text, String line) {
-        String told = below(200) == 0 ? line + " " + one(WRONG) : line;
-        text.append(below(20) == 0 ? "  " + told.replace(" ", "  ") + " " : told);
-        text.append(below(20) == 0 ? "\n \n" : "\n");
-    }
-
-    private static String name() {
-        return below(100) == 0 ? one(WRONG) : one(NAMES);
-    }
-
-    /** A NAME; if not careless, of what began before, so that most are there and few need themselves. */
-    private static String known(int before) {
-        return careless || before == 0 || below(100) == 0 ? name() : NAMES[below(before)];
-    }
-
-    private static String partLine() {
-        if (below(3) == 0 && (careless || partsBegun > 0)) {
-            return "use " + known(partsBegun);
-        }
-        StringBuilder line = new StringBuilder("step");
-        for (int w = below(4); w >= 0; w--) {
-            line.append(' ').append(below(2) == 0 ? "$" + name() : below(2) == 0 ? one(WRONG) : one(VALUES));
-        }
-        return line.toString();
-    }
-
-    private static String jobLine() {
-        StringBuilder line = new StringBuilder();
-        switch (below(8)) {
-            case 0:
-                line.append("needs ").append(known(jobsBegun));
-                for (int w = below(4) - 2; w > 0; w--) {
-                    line.append(' ').append(known(jobsBegun));
-                }
-                return !careless && jobsBegun == 0 ? partLine() : line.toString();
-            case 1:
-            case 2:
-                line.append("axis ").append(name());
-                int at = below(VALUES.length);
-                for (int w = below(5); w >= 0; w--) {
-                    line.append(' ').append(VALUES[(at + w) % VALUES.length]);
-                }
-                return line.toString();
-            case 3:
-            case 4:
-                line.append(below(2) == 0 ? "include" : "exclude");
-                for (int w = below(3); w >= 0; w--) {
-                    line.append(' ').append(pair());
-                }
-                return line.toString();
-            case 5:
-                return "if " + condition(below(4));
-            default:
-                return partLine();
-        }
-    }
-
-    private static String pair() {
-        return below(60) == 0 ? one(WRONG) : NAMES[below(9)] + "=" + one(VALUES);
-    }
-
-    private static String condition(int depth) {
-        if (depth > 0) {
-            String some = condition(depth - 1 - below(depth));
-            switch (below(5)) {
-                case 0:
-                    return "not " + some;
-                case 1:
-                    return "( " + some + " )";
-                case 2:
-                    return "not ( " + some + " )";
-                default:
-                    return some + (below(2) == 0 ? " and " : " or ") + condition(depth - 1);
-            }
-        }
-        switch (below(8)) {
-            case 0:
-                return "always";
-            case 1:
-            case 2:
-                return "branch=" + one(VALUES);
-            case 3:
-            case 4:
-                return (below(2) == 0 ? "ok " : "bad ") + (careless ? name() : NAMES[below(jobsBegun + 1)]);
-            case 5:
-                return careless && below(10) == 0 ? one(WRONG) : pair();
-            default:
-                return pair();
         }
     }
 }
